@@ -23,6 +23,9 @@ public final class SealedProcesses {
     private static final int NIL = 6;
     private static final int EMPTY = 7;
 
+    /** The bits of a type that tell its kind. */
+    private static final int KIND = 15;
+
     /** Stands where a result or a load might be, and there is none. */
     private static final int NO_TYPE = -1;
     private static final int NO_TYPE_BYTE = 255;
@@ -433,7 +436,7 @@ public final class SealedProcesses {
     }
 
     private static int kindOf(int type) {
-        return type & 15;
+        return type & KIND;
     }
 
     private static int namedBy(int type) {
@@ -449,11 +452,13 @@ public final class SealedProcesses {
     }
 
     private static boolean isLinear(int type) {
-        return kindOf(type) == BLOCK || kindOf(type) == END;
+        int kind = type & KIND;
+        return kind == BLOCK || kind == END;
     }
 
     private static boolean isPointer(int type) {
-        return kindOf(type) >= NODE && kindOf(type) <= ROWS;
+        int kind = type & KIND;
+        return kind >= NODE && kind <= ROWS;
     }
 
     private static boolean isPointerOrNil(int type) {
@@ -562,16 +567,26 @@ public final class SealedProcesses {
             return state < 0 || state >= MAX_STATES ? 0 : counts[state];
         }
 
+        /** Where a message stands in the rows, or NONE when the state has no such message. */
+        private int indexOf(int state, int message) {
+            if (state < 0 || state >= MAX_STATES || message < 0 || message >= MAX_MESSAGES) {
+                return NONE;
+            }
+            return message < counts[state] ? state * MAX_MESSAGES + message : NONE;
+        }
+
         private boolean has(int state, int message) {
-            return message >= 0 && message < countAt(state) && message < MAX_MESSAGES;
+            return indexOf(state, message) >= 0;
         }
 
         private int loadOf(int state, int message) {
-            return has(state, message) ? loads[state * MAX_MESSAGES + message] : NO_TYPE;
+            int i = indexOf(state, message);
+            return i < 0 || i >= loads.length ? NO_TYPE : loads[i];
         }
 
         private int nextOf(int state, int message) {
-            return has(state, message) ? nexts[state * MAX_MESSAGES + message] : 0;
+            int i = indexOf(state, message);
+            return i < 0 || i >= nexts.length ? 0 : nexts[i];
         }
 
         private void setState(int state, int turn, int count) {
@@ -582,16 +597,20 @@ public final class SealedProcesses {
         }
 
         private void setMessage(int state, int message, int load, int next) {
-            if (has(state, message)) {
-                loads[state * MAX_MESSAGES + message] = load;
-                nexts[state * MAX_MESSAGES + message] = next;
+            int i = indexOf(state, message);
+            if (i >= 0 && i < loads.length) {
+                loads[i] = load;
+                nexts[i] = next;
             }
         }
 
         /** Whether an end in that state may send that message, and it has no load. */
         private boolean sendsBare(int state, int side, int message) {
-            return turnAt(state) == turnOfSide(side) && has(state, message)
-                && loadOf(state, message) == NO_TYPE;
+            if (state < 0 || state >= MAX_STATES || message < 0 || message >= MAX_MESSAGES) {
+                return false;
+            }
+            return turns[state] == side + 1 && message < counts[state]
+                && loads[state * MAX_MESSAGES + message] == NO_TYPE;
         }
     }
 
@@ -672,6 +691,8 @@ public final class SealedProcesses {
         private int records = 0;
         private final int[] sizes = new int[MAX_RECORDS];
         private final int[] fields = new int[MAX_RECORDS * MAX_FIELDS];
+        /** For each record a bit for each field that a collection has to follow. */
+        private final int[] pointers = new int[MAX_RECORDS];
         private int contracts = 0;
         private final Contract[] contractRow = new Contract[MAX_CONTRACTS];
         private int functions = 0;
@@ -736,6 +757,10 @@ public final class SealedProcesses {
             return f < 0 || f >= sizeOfRecord(r) ? NO_TYPE : fields[r * MAX_FIELDS + f];
         }
 
+        private int pointersOf(int r) {
+            return r < 0 || r >= MAX_RECORDS ? 0 : pointers[r];
+        }
+
         private void setSize(int r, int size) {
             if (r >= 0 && r < MAX_RECORDS) {
                 sizes[r] = size;
@@ -745,6 +770,7 @@ public final class SealedProcesses {
         private void setField(int r, int f, int type) {
             if (r >= 0 && r < MAX_RECORDS && f >= 0 && f < MAX_FIELDS) {
                 fields[r * MAX_FIELDS + f] = type;
+                pointers[r] |= isPointer(type) ? 1 << f : 0;
             }
         }
 
@@ -764,41 +790,39 @@ public final class SealedProcesses {
      */
     private static final class Decoder {
         /** A bit for each kind of type that may stand there. */
-        private static final int ANY = 63;
         private static final int OF_FIELDS = 15;
-        private static final int OF_LOADS = 49;
+        private static final int OF_PARAMETERS = 63;
+        /** Loads and results may be none: that has a bit of its own. */
+        private static final int OR_NONE = 64;
+        private static final int OF_LOADS = 49 | OR_NONE;
+        private static final int OF_RESULTS = OF_PARAMETERS | OR_NONE;
         private static final int NO_BOUND = 256;
 
         private final Bytes bytes = new Bytes();
         private boolean naming = false;
 
         private Bytes decode(TypedModule made) {
-            naming = false;
-            walk(made);
-            if (bytes.isRight()) {
-                naming = true;
-                walk(made);
+            bytes.startOver(made.bytes, made.length);
+            for (int pass = 0; pass < 2 && bytes.isRight(); pass++) {
+                bytes.startOver(made.bytes, made.length);
+                naming = pass == 1;
+                bytes.takeWithin(83, 83);
+                bytes.takeWithin(77, 77);
+                made.records = bytes.takeWithin(0, MAX_RECORDS);
+                for (int r = 0; r < made.records && bytes.isRight(); r++) {
+                    walkRecord(made, r);
+                }
+                made.contracts = bytes.takeWithin(0, MAX_CONTRACTS);
+                for (int c = 0; c < made.contracts && bytes.isRight(); c++) {
+                    walkContract(made, c);
+                }
+                made.functions = bytes.takeWithin(1, MAX_FUNCTIONS);
+                for (int f = 0; f < made.functions && bytes.isRight(); f++) {
+                    walkFunction(made, f);
+                }
+                bytes.expectEnd();
             }
             return bytes;
-        }
-
-        private void walk(TypedModule made) {
-            bytes.startOver(made.bytes, made.length);
-            bytes.takeWithin(83, 83);
-            bytes.takeWithin(77, 77);
-            made.records = bytes.takeWithin(0, MAX_RECORDS);
-            for (int r = 0; r < made.records && bytes.isRight(); r++) {
-                walkRecord(made, r);
-            }
-            made.contracts = bytes.takeWithin(0, MAX_CONTRACTS);
-            for (int c = 0; c < made.contracts && bytes.isRight(); c++) {
-                walkContract(made, c);
-            }
-            made.functions = bytes.takeWithin(1, MAX_FUNCTIONS);
-            for (int f = 0; f < made.functions && bytes.isRight(); f++) {
-                walkFunction(made, f);
-            }
-            bytes.expectEnd();
         }
 
         private void walkRecord(TypedModule made, int r) {
@@ -820,7 +844,7 @@ public final class SealedProcesses {
                 int count = turn == 0 ? bytes.takeWithin(0, 0) : bytes.takeWithin(1, MAX_MESSAGES);
                 contract.setState(s, turn, count);
                 for (int t = 0; t < count && bytes.isRight(); t++) {
-                    int load = takeTypeOrNone(made, OF_LOADS);
+                    int load = takeType(made, OF_LOADS);
                     contract.setMessage(s, t, load, takeName(states));
                 }
             }
@@ -830,9 +854,9 @@ public final class SealedProcesses {
             int parameters = bytes.takeWithin(0, MAX_PARAMETERS);
             int[] types = new int[parameters];
             for (int i = 0; i < parameters && bytes.isRight(); i++) {
-                types[i] = takeType(made, ANY);
+                types[i] = takeType(made, OF_PARAMETERS);
             }
-            int result = takeTypeOrNone(made, ANY);
+            int result = takeType(made, OF_RESULTS);
             int locals = bytes.takeWithin(parameters, MAX_LOCALS);
             int length = bytes.takeWithin(1, MAX_CODE);
             if (!naming) {
@@ -894,6 +918,9 @@ public final class SealedProcesses {
         private int takeType(TypedModule made, int allowed) {
             int where = bytes.at;
             int kind = bytes.take();
+            if (kind == NO_TYPE_BYTE && (allowed & OR_NONE) != 0) {
+                return NO_TYPE;
+            }
             if (kind > END || (allowed >> kind & 1) == 0) {
                 bytes.fail(1, where);
                 return INT;
@@ -912,14 +939,6 @@ public final class SealedProcesses {
                 default:
                     return kind;
             }
-        }
-
-        private int takeTypeOrNone(TypedModule made, int allowed) {
-            if (bytes.peek() == NO_TYPE_BYTE) {
-                bytes.take();
-                return NO_TYPE;
-            }
-            return takeType(made, allowed);
         }
 
         private int takeName(int count) {
@@ -1027,9 +1046,17 @@ public final class SealedProcesses {
                 return;
             }
             boolean differs = first;
-            for (int slot = 0; slot < FRAME && !wrong; slot++) {
+            for (int slot = 0; slot < FRAME; slot++) {
                 if (slot < height || slot >= MAX_STACK) {
-                    differs = arriveInSlot(place, slot, first) || differs;
+                    int now = slot < MAX_STACK ? stack[slot] : locals[slot - MAX_STACK];
+                    int before = first ? now : routine.typeComing(place, slot);
+                    int joined = join(before, now);
+                    if (joined == CLASH) {
+                        want(slot >= MAX_STACK && !isLinear(before) && !isLinear(now));
+                        joined = EMPTY;
+                    }
+                    routine.setComing(place, slot, joined);
+                    differs = differs || joined != before;
                 }
             }
             if (differs) {
@@ -1038,23 +1065,14 @@ public final class SealedProcesses {
             }
         }
 
-        private boolean arriveInSlot(int place, int slot, boolean first) {
-            int now = slot < MAX_STACK ? stack[slot] : locals[slot - MAX_STACK];
-            int before = first ? now : routine.typeComing(place, slot);
-            int joined = join(before, now);
-            if (joined == CLASH) {
-                wrong = wrong || slot < MAX_STACK || isLinear(before) || isLinear(now);
-                joined = EMPTY;
-            }
-            routine.setComing(place, slot, joined);
-            return joined != before;
-        }
-
+        /** What two that come together become; CLASH when they are neither alike nor NIL. */
         private static int join(int before, int now) {
-            if (fits(now, before)) {
+            int kindBefore = before & KIND;
+            int kindNow = now & KIND;
+            if (before == now || now == NIL && kindBefore >= NODE && kindBefore <= ROWS) {
                 return before;
             }
-            return fits(before, now) ? now : CLASH;
+            return before == NIL && kindNow >= NODE && kindNow <= ROWS ? now : CLASH;
         }
 
         private void push(int type) {
@@ -1574,7 +1592,7 @@ public final class SealedProcesses {
         }
 
         private void give(int b, int owner) {
-            if (sizeOf(b) > 0) {
+            if (b >= 0 && b < MAX_BLOCKS) {
                 owners[b] = owner;
             }
         }
@@ -1590,11 +1608,10 @@ public final class SealedProcesses {
         }
 
         private void free(int b) {
-            int size = sizeOf(b);
-            if (size > 0) {
-                sizes[b] = 0;
+            if (b >= 0 && b < MAX_BLOCKS && sizes[b] > 0) {
+                cells -= sizes[b] + 1;
                 count--;
-                cells -= size + 1;
+                sizes[b] = 0;
             }
         }
 
@@ -1619,8 +1636,8 @@ public final class SealedProcesses {
         private final int[] messages = new int[MAX_ENDS * MAX_WAITING];
         private final int[] loadKinds = new int[MAX_ENDS * MAX_WAITING];
         private final int[] loads = new int[MAX_ENDS * MAX_WAITING];
-        /** Ends that are closed but whose messages have still to go. */
-        private final int[] closing = new int[MAX_ENDS];
+        /** Ends that are closed, or were sent to though closed, and whose messages have to go. */
+        private final int[] closing = new int[MAX_ENDS + 1];
         private int closingCount = 0;
 
         private Ends(Blocks blocks) {
@@ -1678,7 +1695,7 @@ public final class SealedProcesses {
         }
 
         private void give(int e, int owner) {
-            if (isOpen(e)) {
+            if (e >= 0 && e < MAX_ENDS) {
                 owners[e] = owner;
             }
         }
@@ -1703,19 +1720,20 @@ public final class SealedProcesses {
             }
         }
 
+        /** To a closed end a message comes too, but goes again when the step is settled. */
         private void send(int e, int message, int kind, int load) {
-            moveOn(e, message);
             int other = e ^ 1;
-            if (!isOpen(other)) {
-                drop(kind, load);
-                closeAll();
-            } else if (!isFull(other)) {
-                int i = other * MAX_WAITING + waiting[other];
-                messages[i] = message;
-                loadKinds[i] = kind;
-                loads[i] = load;
-                waiting[other]++;
-                hand(kind, load, WAITS_FOR + other);
+            if (!isOpen(e) || waiting[other] >= MAX_WAITING) {
+                return;
+            }
+            int i = other * MAX_WAITING + waiting[other];
+            messages[i] = message;
+            loadKinds[i] = kind;
+            loads[i] = load;
+            waiting[other]++;
+            hand(kind, load, WAITS_FOR + other);
+            if (!open[other]) {
+                addClosing(other);
             }
         }
 
@@ -1751,63 +1769,63 @@ public final class SealedProcesses {
         }
 
         private void close(int e) {
-            markClosed(e);
-            closeAll();
+            if (isOpen(e)) {
+                open[e] = false;
+                addClosing(e);
+            }
         }
 
         private void closeAllOf(int owner) {
             for (int e = 0; e < MAX_ENDS; e++) {
                 if (open[e] && owners[e] == owner) {
-                    markClosed(e);
+                    close(e);
                 }
             }
-            closeAll();
         }
 
-        private void markClosed(int e) {
-            if (isOpen(e) && closingCount < MAX_ENDS) {
-                open[e] = false;
+        private void addClosing(int e) {
+            if (closingCount < closing.length) {
                 closing[closingCount] = e;
                 closingCount++;
             }
         }
 
-        /** What waited for a closed end may be an end, so closing goes on; each end closes once. */
-        private void closeAll() {
-            for (int i = 0; i < closingCount && i < MAX_ENDS; i++) {
+        /** What waited for a closed end may be an end, so more are closed on the way. */
+        private void settle() {
+            for (int i = 0; i < closingCount && i < closing.length; i++) {
                 int e = closing[i];
                 for (int m = 0; m < waiting[e] && m < MAX_WAITING; m++) {
-                    drop(loadKinds[e * MAX_WAITING + m], loads[e * MAX_WAITING + m]);
+                    int load = loads[e * MAX_WAITING + m];
+                    if (loadKinds[e * MAX_WAITING + m] == BLOCK) {
+                        blocks.free(load);
+                    } else if (loadKinds[e * MAX_WAITING + m] == END) {
+                        close(load);
+                    }
                 }
                 waiting[e] = 0;
             }
             closingCount = 0;
         }
-
-        private void drop(int kind, int load) {
-            if (kind == BLOCK) {
-                blocks.free(load);
-            } else if (kind == END) {
-                markClosed(load);
-            }
-        }
     }
 
     /** A process: its activations, and a heap of its own. */
     private static final class Task {
-        /** Headers of rows begin here; those of nodes are their records' numbers. */
-        private static final int ROW_HEADER = 1 << 16;
-        private static final int ROWS_HEADER = 2 << 16;
-        private static final int LENGTH_MASK = ROW_HEADER - 1;
+        /** A header tells a node's record, or that it is a row, and how many cells follow it. */
+        private static final int LENGTH_BITS = 16;
+        private static final int LENGTH_MASK = (1 << LENGTH_BITS) - 1;
+        private static final int ROW_HEADER = MAX_RECORDS << LENGTH_BITS;
+        private static final int ROWS_HEADER = (MAX_RECORDS + 1) << LENGTH_BITS;
 
         private final int number;
-        private TypedModule code = null;
+        private TypedModule code;
         private int shelfPlace = 0;
         private int heap = 0;
         private int status = OVER;
         private int trap = 0;
         private int steps = 0;
         private int activations = 0;
+        /** The latest activation. */
+        private int top = 0;
         private final int[] functions = new int[MAX_ACTIVATIONS];
         private final int[] places = new int[MAX_ACTIVATIONS];
         private final int[] heights = new int[MAX_ACTIVATIONS];
@@ -1818,8 +1836,9 @@ public final class SealedProcesses {
         private int[] cells = new int[MAX_HEAP + 1];
         private int free = 1;
 
-        private Task(int number) {
+        private Task(int number, TypedModule code) {
             this.number = number;
+            this.code = code;
         }
 
         private void begin(TypedModule module, int place, int function, int heapCells) {
@@ -1843,27 +1862,31 @@ public final class SealedProcesses {
             if (activations >= MAX_ACTIVATIONS) {
                 return false;
             }
-            functions[activations] = function;
-            places[activations] = 0;
-            heights[activations] = 0;
-            for (int i = MAX_STACK; i < FRAME; i++) {
-                kinds[activations * FRAME + i] = EMPTY;
-                values[activations * FRAME + i] = 0;
-            }
+            top = activations;
             activations++;
+            functions[top] = function;
+            places[top] = 0;
+            heights[top] = 0;
+            for (int i = top * FRAME + MAX_STACK; i < (top + 1) * FRAME; i++) {
+                kinds[i] = EMPTY;
+                values[i] = 0;
+            }
             return true;
         }
 
-        private int latest() {
-            return Math.max(0, activations - 1);
+        private void leave() {
+            if (activations > 1) {
+                activations--;
+                top = activations - 1;
+            }
         }
 
         private int function() {
-            return functions[latest()];
+            return functions[top];
         }
 
         private Routine routine() {
-            return code == null ? null : code.routineAt(function());
+            return code.routineAt(functions[top]);
         }
 
         private int localCount() {
@@ -1872,61 +1895,60 @@ public final class SealedProcesses {
         }
 
         private int place() {
-            return places[latest()];
+            return places[top];
         }
 
         private void goTo(int place) {
-            places[latest()] = place;
+            places[top] = place;
         }
 
         private int height() {
-            return heights[latest()];
+            return heights[top];
         }
 
         private int addressOfNext() {
             Routine running = routine();
-            return running == null ? NONE : running.start + place();
+            return running == null ? NONE : running.start + places[top];
         }
 
         private void push(int kind, int number) {
-            int height = height();
+            int height = heights[top];
             if (height >= 0 && height < MAX_STACK) {
-                setSlot(latest(), height, kind, number);
-                heights[latest()] = height + 1;
+                kinds[top * FRAME + height] = kind;
+                values[top * FRAME + height] = number;
+                heights[top] = height + 1;
             }
-        }
-
-        private void pushInt(int number) {
-            push(INT, number);
         }
 
         private int pop() {
-            int height = height();
-            if (height <= 0) {
+            int height = heights[top] - 1;
+            if (height < 0) {
                 poppedKind = EMPTY;
                 return 0;
             }
-            heights[latest()] = height - 1;
-            poppedKind = kindIn(height - 1);
-            return numberIn(height - 1);
+            heights[top] = height;
+            poppedKind = kinds[top * FRAME + height];
+            return values[top * FRAME + height];
         }
 
-        private void setSlot(int activation, int slot, int kind, int number) {
-            int i = activation * FRAME + slot;
-            if (i >= 0 && i < values.length) {
-                kinds[i] = kind;
-                values[i] = number;
+        private void setLocal(int local, int kind, int number) {
+            if (local >= 0 && local < MAX_LOCALS) {
+                kinds[top * FRAME + MAX_STACK + local] = kind;
+                values[top * FRAME + MAX_STACK + local] = number;
             }
         }
 
         private int kindIn(int slot) {
-            int i = latest() * FRAME + slot;
-            return slot < 0 || slot >= FRAME ? EMPTY : kinds[i];
+            return slot < 0 || slot >= FRAME ? EMPTY : kinds[top * FRAME + slot];
         }
 
         private int numberIn(int slot) {
-            int i = latest() * FRAME + slot;
-            return slot < 0 || slot >= FRAME ? 0 : values[i];
+            return slot < 0 || slot >= FRAME ? 0 : values[top * FRAME + slot];
+        }
+
+        /** What is on top of the stack stays there. */
+        private int highest() {
+            return numberIn(heights[top] - 1);
         }
 
         private int shown(int slot) {
@@ -1948,10 +1970,10 @@ public final class SealedProcesses {
             return heap + 1 - free;
         }
 
-        /** The place of a new node or row in the heap, all 0; there must be room for it. */
+        /** The place of a new node or row in the heap, all 0; 0 when there is no room. */
         private int make(int header) {
             int made = free;
-            int size = sizeFor(header);
+            int size = 1 + (header & LENGTH_MASK);
             if (size > room()) {
                 return 0;
             }
@@ -1963,14 +1985,7 @@ public final class SealedProcesses {
             return made;
         }
 
-        private int sizeFor(int header) {
-            if (header >= ROW_HEADER) {
-                return 1 + (header & LENGTH_MASK);
-            }
-            return 1 + (code == null ? 0 : code.sizeOfRecord(header));
-        }
-
-        private int lengthOfRow(int row) {
+        private int lengthOf(int row) {
             return cellAt(row) & LENGTH_MASK;
         }
 
@@ -1979,14 +1994,14 @@ public final class SealedProcesses {
         }
 
         private int kindOfField(int node, int f) {
-            int type = code == null ? INT : code.typeOfField(cellAt(node), f);
-            return isPointer(type) ? NODE : INT;
+            int pointers = code.pointersOf(cellAt(node) >> LENGTH_BITS);
+            return (pointers >> f & 1) == 1 ? NODE : INT;
         }
 
         /** Moves all that is reached to the spare cells; the old ones are the next to spare. */
-        private int[] collect(int[] spare) {
+        private int[] collect(int[] spareCells) {
             int[] old = cells;
-            cells = spare;
+            cells = spareCells;
             free = 1;
             for (int a = 0; a < activations && a < MAX_ACTIVATIONS; a++) {
                 for (int slot = 0; slot < FRAME; slot++) {
@@ -1997,13 +2012,13 @@ public final class SealedProcesses {
                 }
             }
             int scanned = 1;
-            for (int i = 0; i < MAX_HEAP && scanned < free; i++) {
+            for (int i = 0; i < MAX_HEAP && scanned < free && scanned < cells.length; i++) {
                 scanned += movePartsOf(old, scanned);
             }
             return old;
         }
 
-        /** A cell that was moved has its new place, below 0, where its header was. */
+        /** What was moved has its new place, below 0, where its header was. */
         private int moved(int[] old, int from) {
             if (from < 1 || from > MAX_HEAP || from >= old.length) {
                 return 0;
@@ -2012,27 +2027,28 @@ public final class SealedProcesses {
                 return -old[from];
             }
             int to = free;
-            int size = sizeFor(old[from]);
-            for (int i = 0; i < size && from + i < old.length; i++) {
-                setCell(to + i, old[from + i]);
+            int size = 1 + (old[from] & LENGTH_MASK);
+            if (from + size > old.length || to < 0 || to + size > cells.length) {
+                return 0;
             }
+            System.arraycopy(old, from, cells, to, size);
             old[from] = -to;
-            free += size;
+            free = to + size;
             return to;
         }
 
         private int movePartsOf(int[] old, int at) {
-            int header = cellAt(at);
-            int size = sizeFor(header);
-            if (header < ROW_HEADER) {
-                for (int f = 0; f < size - 1; f++) {
-                    if (kindOfField(at, f) == NODE) {
-                        setCell(at + 1 + f, moved(old, cellAt(at + 1 + f)));
+            int size = 1 + (cells[at] & LENGTH_MASK);
+            if (cells[at] < ROW_HEADER) {
+                int pointers = code.pointersOf(cells[at] >> LENGTH_BITS);
+                for (int f = 0; pointers >> f != 0 && f < MAX_FIELDS; f++) {
+                    if ((pointers >> f & 1) == 1 && at + 1 + f < cells.length) {
+                        cells[at + 1 + f] = moved(old, cells[at + 1 + f]);
                     }
                 }
-            } else if (header >= ROWS_HEADER) {
-                for (int i = 1; i < size; i++) {
-                    setCell(at + i, moved(old, cellAt(at + i)));
+            } else if (cells[at] >= ROWS_HEADER) {
+                for (int i = at + 1; i < at + size && i < cells.length; i++) {
+                    cells[i] = moved(old, cells[i]);
                 }
             }
             return size;
@@ -2041,6 +2057,9 @@ public final class SealedProcesses {
 
     /** What was booted: processes that take turns, their blocks, channels and OUTs. */
     private static final class Machine {
+        private static final int NO_TRAP = 0;
+        private static final int FINISHED = -1;
+
         private boolean booted = false;
         private final Task[] tasks = new Task[MAX_PROCESSES];
         /** Tasks are made once and used again; this tells which numbers have had one since boot. */
@@ -2086,15 +2105,14 @@ public final class SealedProcesses {
                 return;
             }
             int heap = CELLS_OF_A_UNIT * manifest.units[p];
-            Task task = freshTask(p);
-            task.begin(module, manifest.shelfPlaces[p], manifest.functions[p], heap);
+            Task task = begin(p, module, manifest.shelfPlaces[p], manifest.functions[p], heap);
             for (int i = 0; i < routine.parameters && i < MAX_PARAMETERS; i++) {
                 int type = routine.typeOfParameter(i);
                 int given = manifest.given[p * MAX_PARAMETERS + i];
                 if (kindOf(type) == END) {
                     given = bootedEnd(given, sideOfEnd(type), module.contractAt(namedBy(type)), p);
                 }
-                task.setSlot(0, MAX_STACK + i, kindOf(type), given);
+                task.setLocal(i, kindOf(type), given);
             }
         }
 
@@ -2110,11 +2128,12 @@ public final class SealedProcesses {
             return end;
         }
 
-        private Task freshTask(int p) {
+        private Task begin(int p, TypedModule module, int shelfPlace, int function, int heap) {
             if (tasks[p] == null) {
-                tasks[p] = new Task(p);
+                tasks[p] = new Task(p, module);
             }
             had[p] = true;
+            tasks[p].begin(module, shelfPlace, function, heap);
             return tasks[p];
         }
 
@@ -2184,7 +2203,7 @@ public final class SealedProcesses {
             int address = task.addressOfNext();
             int op = task.code.byteAt(address);
             if (op == OP_RECEIVE) {
-                int end = task.numberIn(task.height() - 1);
+                int end = task.highest();
                 return ends.waitingFor(end) > 0 ? GOES_ON : WAITS_TO_RECEIVE;
             }
             if (op == OP_SEND) {
@@ -2212,48 +2231,53 @@ public final class SealedProcesses {
             turnSteps++;
             task.goTo(task.place() + task.code.lengthOfInstruction(address));
             int trap = perform(task, op, address);
-            if (trap != 0) {
-                finish(task, trap);
+            if (trap != NO_TRAP) {
+                task.status = trap == FINISHED ? OVER : OVER_BY_TRAP;
+                task.trap = trap == FINISHED ? 0 : trap;
+                blocks.freeAllOf(task.number);
+                ends.closeAllOf(task.number);
             }
+            ends.settle();
             if (task.isOver() || op == OP_YIELD || turnSteps >= TURN_STEPS) {
                 passOn();
             }
         }
 
-        private void finish(Task task, int trap) {
-            task.trap = trap;
-            task.status = trap == 0 ? OVER : OVER_BY_TRAP;
-            blocks.freeAllOf(task.number);
-            ends.closeAllOf(task.number);
-        }
-
-        /** Does an instruction, and answers the trap, or 0. */
+        /** Does an instruction: NO_TRAP, a trap, or FINISHED when the process is over without one. */
         private int perform(Task task, int op, int address) {
             int operand = task.code.byteAt(address + 1);
             if (op <= OP_SWAP) {
                 performMove(task, op, operand, address);
-                return 0;
+                return NO_TRAP;
             }
             if (op <= OP_SAME) {
                 return performInts(task, op);
             }
-            if (op <= OP_ZERO || op >= OP_SPAWN || op == OP_CALL || op == OP_RETURN) {
-                return performFlow(task, op, operand);
-            }
-            if (op <= OP_LAY) {
+            if (op >= OP_NEW && op <= OP_LAY) {
                 return performHeap(task, op, operand);
             }
-            if (op <= OP_FREE) {
+            if (op >= OP_BLOCK && op <= OP_FREE) {
                 return performBlock(task, op, operand);
             }
-            return performEnd(task, op, operand, address);
+            switch (op) {
+                case OP_CALL:
+                    return call(task, operand);
+                case OP_SEND:
+                    return send(task, operand);
+                case OP_RECEIVE:
+                    return receive(task, address);
+                case OP_SPAWN:
+                    return spawn(task, operand);
+                default:
+                    return performFlow(task, op, operand);
+            }
         }
 
         private void performMove(Task task, int op, int operand, int address) {
             int top = task.height() - 1;
             switch (op) {
                 case OP_PUSH:
-                    task.pushInt(task.code.wordAt(address + 1));
+                    task.push(INT, task.code.wordAt(address + 1));
                     break;
                 case OP_NIL:
                     task.push(NODE, 0);
@@ -2262,12 +2286,12 @@ public final class SealedProcesses {
                     int local = MAX_STACK + operand;
                     task.push(task.kindIn(local), task.numberIn(local));
                     if (isLinear(task.kindIn(local))) {
-                        task.setSlot(task.latest(), local, EMPTY, 0);
+                        task.setLocal(operand, EMPTY, 0);
                     }
                     break;
                 case OP_STORE:
                     int stored = task.pop();
-                    task.setSlot(task.latest(), MAX_STACK + operand, task.poppedKind, stored);
+                    task.setLocal(operand, task.poppedKind, stored);
                     break;
                 case OP_POP:
                     task.pop();
@@ -2292,8 +2316,8 @@ public final class SealedProcesses {
             if ((op == OP_DIV || op == OP_REM) && b == 0) {
                 return TRAP_ZERO;
             }
-            task.pushInt(reckon(op, a, b));
-            return 0;
+            task.push(INT, reckon(op, a, b));
+            return NO_TRAP;
         }
 
         private static int reckon(int op, int a, int b) {
@@ -2328,30 +2352,29 @@ public final class SealedProcesses {
         private int performFlow(Task task, int op, int operand) {
             switch (op) {
                 case OP_NONE:
-                    task.pushInt(task.pop() == 0 ? 1 : 0);
-                    return 0;
+                    task.push(INT, task.pop() == 0 ? 1 : 0);
+                    return NO_TRAP;
                 case OP_JUMP:
                     task.goTo(operand);
-                    return 0;
+                    return NO_TRAP;
                 case OP_ZERO:
                     if (task.pop() == 0) {
                         task.goTo(operand);
                     }
-                    return 0;
-                case OP_CALL:
-                    return call(task, operand);
+                    return NO_TRAP;
                 case OP_RETURN:
-                    giveBack(task);
-                    return 0;
-                case OP_SPAWN:
-                    return spawn(task, operand);
+                    return giveBack(task);
+                case OP_CHANNEL:
+                    return openChannel(task, operand);
+                case OP_CLOSE:
+                    ends.close(task.pop());
+                    return NO_TRAP;
                 case OP_EXIT:
-                    finish(task, 0);
-                    return 0;
+                    return FINISHED;
                 case OP_OUT:
                     return out(task);
                 default:
-                    return 0;
+                    return NO_TRAP;
             }
         }
 
@@ -2362,7 +2385,7 @@ public final class SealedProcesses {
                 return TRAP_ACTIVATION;
             }
             layParameters(task, count);
-            return 0;
+            return NO_TRAP;
         }
 
         private static int parametersOf(Task task, int function) {
@@ -2379,22 +2402,22 @@ public final class SealedProcesses {
 
         private void layParameters(Task task, int count) {
             for (int i = 0; i < count; i++) {
-                task.setSlot(task.latest(), MAX_STACK + i, heldKinds[i], heldNumbers[i]);
+                task.setLocal(i, heldKinds[i], heldNumbers[i]);
             }
         }
 
-        private void giveBack(Task task) {
+        private int giveBack(Task task) {
             Routine ending = task.routine();
             boolean hasResult = ending != null && ending.result != NO_TYPE;
             int result = hasResult ? task.pop() : 0;
             if (task.activations <= 1) {
-                finish(task, 0);
-                return;
+                return FINISHED;
             }
-            task.activations--;
+            task.leave();
             if (hasResult) {
                 task.push(task.poppedKind, result);
             }
+            return NO_TRAP;
         }
 
         private int spawn(Task task, int function) {
@@ -2402,13 +2425,11 @@ public final class SealedProcesses {
             takeParameters(task, count);
             for (int p = 0; p < MAX_PROCESSES; p++) {
                 if (livingAt(p) == null) {
-                    Task spawned = freshTask(p);
-                    spawned.begin(task.code, task.shelfPlace, function, task.heap);
-                    layParameters(spawned, count);
+                    layParameters(begin(p, task.code, task.shelfPlace, function, task.heap), count);
                     for (int i = 0; i < count; i++) {
                         ends.hand(heldKinds[i], heldNumbers[i], p);
                     }
-                    return 0;
+                    return NO_TRAP;
                 }
             }
             return TRAP_PROCESS;
@@ -2422,17 +2443,18 @@ public final class SealedProcesses {
             outTask[outs] = task.number;
             outNumber[outs] = number;
             outs++;
-            return 0;
+            return NO_TRAP;
         }
 
         private int performHeap(Task task, int op, int operand) {
             switch (op) {
                 case OP_NEW:
-                    return layInHeap(task, operand);
+                    int size = task.code.sizeOfRecord(operand);
+                    return layInHeap(task, operand << Task.LENGTH_BITS, size);
                 case OP_ROW:
-                    return makeRow(task, Task.ROW_HEADER);
+                    return layInHeap(task, Task.ROW_HEADER, task.pop());
                 case OP_ROWS:
-                    return makeRow(task, Task.ROWS_HEADER);
+                    return layInHeap(task, Task.ROWS_HEADER, task.pop());
                 case OP_GET:
                 case OP_PUT:
                     return performNode(task, op, operand);
@@ -2441,24 +2463,22 @@ public final class SealedProcesses {
             }
         }
 
-        private int makeRow(Task task, int header) {
-            int length = task.pop();
+        private int layInHeap(Task task, int header, int length) {
             if (length < 0) {
                 return TRAP_LENGTH;
             }
-            return length >= task.heap ? TRAP_HEAP : layInHeap(task, header + length);
-        }
-
-        private int layInHeap(Task task, int header) {
-            if (task.sizeFor(header) > task.room()) {
+            if (length >= task.heap) {
+                return TRAP_HEAP;
+            }
+            if (length >= task.room()) {
                 spare = task.collect(spare);
             }
-            int made = task.make(header);
+            int made = task.make(header + length);
             if (made == 0) {
                 return TRAP_HEAP;
             }
             task.push(NODE, made);
-            return 0;
+            return NO_TRAP;
         }
 
         private int performNode(Task task, int op, int field) {
@@ -2472,7 +2492,7 @@ public final class SealedProcesses {
             } else {
                 task.push(task.kindOfField(node, field), task.cellAt(node + 1 + field));
             }
-            return 0;
+            return NO_TRAP;
         }
 
         private int performRow(Task task, int op) {
@@ -2482,10 +2502,10 @@ public final class SealedProcesses {
             if (row == 0) {
                 return TRAP_NIL;
             }
-            int length = task.lengthOfRow(row);
+            int length = task.lengthOf(row);
             if (op == OP_LENGTH) {
-                task.pushInt(length);
-                return 0;
+                task.push(INT, length);
+                return NO_TRAP;
             }
             if (index < 0 || index >= length) {
                 return TRAP_INDEX;
@@ -2495,7 +2515,7 @@ public final class SealedProcesses {
             } else {
                 task.push(task.kindOfItem(row), task.cellAt(row + 1 + index));
             }
-            return 0;
+            return NO_TRAP;
         }
 
         private int performBlock(Task task, int op, int operand) {
@@ -2505,59 +2525,50 @@ public final class SealedProcesses {
                     return TRAP_BLOCK;
                 }
                 task.push(BLOCK, made);
-                return 0;
+                return NO_TRAP;
             }
             int number = op == OP_SET ? task.pop() : 0;
-            int block = task.numberIn(task.height() - 1);
+            int block = task.highest();
             if (op == OP_SEE) {
-                task.pushInt(blocks.see(block, operand));
+                task.push(INT, blocks.see(block, operand));
             } else if (op == OP_SET) {
                 blocks.set(block, operand, number);
             } else {
                 blocks.free(task.pop());
             }
-            return 0;
+            return NO_TRAP;
         }
 
-        private int performEnd(Task task, int op, int operand, int address) {
-            switch (op) {
-                case OP_CHANNEL:
-                    int made = ends.make(task.code.contractAt(operand), task.number);
-                    if (made == NONE) {
-                        return TRAP_CHANNEL;
-                    }
-                    task.push(END, 2 * made);
-                    task.push(END, 2 * made + 1);
-                    return 0;
-                case OP_SEND:
-                    send(task, operand);
-                    return 0;
-                case OP_RECEIVE:
-                    receive(task, address);
-                    return 0;
-                default:
-                    ends.close(task.pop());
-                    return 0;
+        private int openChannel(Task task, int contract) {
+            int made = ends.make(task.code.contractAt(contract), task.number);
+            if (made == NONE) {
+                return TRAP_CHANNEL;
             }
+            task.push(END, 2 * made);
+            task.push(END, 2 * made + 1);
+            return NO_TRAP;
         }
 
-        private void send(Task task, int message) {
+        private int send(Task task, int message) {
             int kind = NO_TYPE;
             int sent = 0;
             if (!isBare(task, message)) {
                 sent = task.pop();
                 kind = task.poppedKind;
             }
-            ends.send(task.numberIn(task.height() - 1), message, kind, sent);
+            int end = task.highest();
+            ends.moveOn(end, message);
+            ends.send(end, message, kind, sent);
+            return NO_TRAP;
         }
 
-        private void receive(Task task, int address) {
-            int end = task.numberIn(task.height() - 1);
+        private int receive(Task task, int address) {
+            int end = task.highest();
             int message = ends.nextMessage(end);
             int kind = ends.nextLoadKind(end);
             int received = ends.nextLoad(end);
             if (message == NONE) {
-                return;
+                return NO_TRAP;
             }
             ends.removeNext(end);
             ends.moveOn(end, message);
@@ -2566,6 +2577,7 @@ public final class SealedProcesses {
                 ends.hand(kind, received, task.number);
             }
             task.goTo(task.code.byteAt(address + 2 + message));
+            return NO_TRAP;
         }
     }
 }
