@@ -2253,13 +2253,24 @@ public final class SealedProcesses {
             if (op <= OP_SAME) {
                 return performInts(task, op);
             }
-            if (op >= OP_NEW && op <= OP_LAY) {
-                return performHeap(task, op, operand);
-            }
             if (op >= OP_BLOCK && op <= OP_FREE) {
                 return performBlock(task, op, operand);
             }
             switch (op) {
+                case OP_NEW:
+                    int size = task.code.sizeOfRecord(operand);
+                    return layInHeap(task, operand << Task.LENGTH_BITS, size);
+                case OP_ROW:
+                    return layInHeap(task, Task.ROW_HEADER, task.pop());
+                case OP_ROWS:
+                    return layInHeap(task, Task.ROWS_HEADER, task.pop());
+                case OP_GET:
+                case OP_PUT:
+                    return performNode(task, op, operand);
+                case OP_LENGTH:
+                case OP_TAKE:
+                case OP_LAY:
+                    return performRow(task, op);
                 case OP_CALL:
                     return call(task, operand);
                 case OP_SEND:
@@ -2444,23 +2455,6 @@ public final class SealedProcesses {
             outNumber[outs] = number;
             outs++;
             return NO_TRAP;
-        }
-
-        private int performHeap(Task task, int op, int operand) {
-            switch (op) {
-                case OP_NEW:
-                    int size = task.code.sizeOfRecord(operand);
-                    return layInHeap(task, operand << Task.LENGTH_BITS, size);
-                case OP_ROW:
-                    return layInHeap(task, Task.ROW_HEADER, task.pop());
-                case OP_ROWS:
-                    return layInHeap(task, Task.ROWS_HEADER, task.pop());
-                case OP_GET:
-                case OP_PUT:
-                    return performNode(task, op, operand);
-                default:
-                    return performRow(task, op);
-            }
         }
 
         private int layInHeap(Task task, int header, int length) {
