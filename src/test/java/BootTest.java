@@ -51,6 +51,7 @@ public final class BootTest {
         }
         fault("one byte more", 1, whole.length, Build.joined(whole, 0));
         fault("not 83", 1, 0, Build.changed(whole, 0, 82));
+        fault("not 83", 1, 0, Build.changed(whole, 0, 84));
         fault("not 70", 1, 1, Build.changed(whole, 1, 77));
         fault("no process", 1, 2, Build.changed(whole, 2, 0));
         fault("7 processes", 1, 2, Build.changed(whole, 2, 7));

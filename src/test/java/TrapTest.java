@@ -78,6 +78,24 @@ public final class TrapTest {
         trapped("a ring that has room", 0, ring().push(9).op(Op.ROW, Op.EXIT));
         trapped("a ring that is not reached", 0, ring().op(Op.NIL, Op.STORE, 0).push(15).op(Op.ROW, Op.EXIT));
         contents();
+        largest();
+    }
+
+    /** In a heap of 1,024 cells: 255 nodes in a row of 258, to the last cell, and none of it lost. */
+    private static void largest() {
+        Code code = code().push(258).op(Op.ROWS, 0, Op.STORE, 0).push(255).op(Op.STORE, 1)
+            .label("make").op(Op.LOAD, 1).zero("tell").op(Op.LOAD, 1).push(1).op(Op.SUB, Op.STORE, 1)
+            .op(Op.LOAD, 0, Op.LOAD, 1, Op.NEW, 0, Op.LAY, Op.LOAD, 0, Op.LOAD, 1, Op.TAKE, Op.LOAD, 1, Op.PUT, 1).jump("make")
+            .label("tell").op(Op.YIELD, Op.LOAD, 0).push(254).op(Op.TAKE, Op.GET, 1, Op.OUT).push(0).op(Op.ROW, Op.EXIT);
+        SealedProcesses x = new SealedProcesses();
+        Build.load(x, build().function(2, code).bytes());
+        Build.boot(x, 83, 70, 1, 0, 0, 64);
+        int steps = 5 + 255 * 16 + 3;
+        CHECK.due("steps", x.run(steps), steps);
+        CHECK.due("all cells are reached", x.process(0, 7), 1024);
+        CHECK.due("the rest", x.run(100), 7);
+        CHECK.due("what the last node has", x.output(0, 1), 254);
+        CHECK.due("no cell more", x.process(0, 1), 5);
     }
 
     /** Local 0 has a node whose field 0 is a second one, whose field 0 is the first. */
