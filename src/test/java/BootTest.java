@@ -53,6 +53,7 @@ public final class BootTest {
         fault("not 83", 1, 0, Build.changed(whole, 0, 82));
         fault("not 83", 1, 0, Build.changed(whole, 0, 84));
         fault("not 70", 1, 1, Build.changed(whole, 1, 77));
+        fault("not 70", 1, 1, Build.changed(whole, 1, 71));
         fault("no process", 1, 2, Build.changed(whole, 2, 0));
         fault("7 processes", 1, 2, Build.changed(whole, 2, 7));
         fault("a module that is not there", 3, 3, Build.changed(whole, 3, 1));

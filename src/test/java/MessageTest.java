@@ -27,6 +27,7 @@ public final class MessageTest {
     public static void main(String[] args) {
         asks();
         blocks();
+        inOrder();
         full();
         toTheClosed();
         closedWithMessages();
@@ -56,6 +57,25 @@ public final class MessageTest {
             dues("OUT " + i, x.output(i, 1), 2 << i);
             dues("of process", x.output(i, 0), 0);
         }
+    }
+
+    /** Four messages wait, of different kinds, and come in their order with what they have. */
+    private static void inOrder() {
+        SealedProcesses x = booted(new Build().record(1, 0).contract(1, Op.CLIENTS, 3, 0, 0, 255, 0, 4, 0, 0)
+            .function(1, end(0, Op.CLIENT), NO, 1, new Code().op(Op.LOAD, 0, Op.SEND, 1).push(5).op(Op.SEND, 0)
+                .op(Op.BLOCK, 0).push(8).op(Op.SET, 0, Op.SEND, 2).push(9).op(Op.SEND, 0).label("a").op(Op.YIELD).jump("a"))
+            .function(1, end(0, Op.SERVER), NO, 1, new Code().times(6, Op.YIELD).op(Op.LOAD, 0).label("r").receive("i", "n", "b")
+                .label("i").op(Op.OUT).jump("r").label("n").push(77).op(Op.OUT).jump("r")
+                .label("b").op(Op.SEE, 0, Op.OUT, Op.FREE).jump("r")), 2, 0, 0, 1, 0, 0, 1, 1, 0);
+        x.run(20);
+        dues("four wait", x.channel(0, 1, 2), 4);
+        x.run(400);
+        int[] due = {77, 5, 8, 9};
+        dues("OUTs", x.about(6), 4);
+        for (int i = 0; i < 4; i++) {
+            dues("message " + i, x.output(i, 1), due[i]);
+        }
+        dues("no block is left", x.about(4), 0);
     }
 
     private static Code sender(int blocks) {

@@ -7,6 +7,7 @@ public final class RunTest {
         turns();
         withinTurns();
         yields();
+        lonely();
         spawned();
         waiting();
         still();
@@ -88,6 +89,13 @@ public final class RunTest {
         CHECK.due("those that are over are passed", x.process(0, 9), 6);
         CHECK.due("those that are over are passed", x.process(3, 9), 3);
         outs(x, "the OUTs", 0, 1, 3, 0);
+    }
+
+    /** Each step is a turn, and between two turns eleven numbers are passed that have no process. */
+    private static void lonely() {
+        SealedProcesses x = Build.booted(new Build().function(0, new Code().times(239, Op.YIELD).op(Op.RETURN)), 0);
+        CHECK.due("run(230)", x.run(230), 230);
+        CHECK.due("run(100)", x.run(100), 10);
     }
 
     /** One that is spawned runs when its number comes: in the same round, if that is still ahead. */

@@ -96,6 +96,15 @@ public final class TrapTest {
         CHECK.due("the rest", x.run(100), 7);
         CHECK.due("what the last node has", x.output(0, 1), 254);
         CHECK.due("no cell more", x.process(0, 1), 5);
+        SealedProcesses y = new SealedProcesses();
+        Build.load(y, build().function(1, code().push(1022).op(Op.ROW).push(0).op(Op.ROW, Op.DUP, Op.STORE, 0, Op.LENGTH, Op.OUT)
+            .op(Op.LOAD, 0, Op.LENGTH, Op.OUT, Op.EXIT)).bytes());
+        Build.boot(y, 83, 70, 1, 0, 0, 64);
+        y.run(4);
+        CHECK.due("a row of none in the last cell", y.process(0, 7), 1024);
+        CHECK.due("and again", y.process(0, 7), 1024);
+        y.run(100);
+        CHECK.due("it is still there", y.about(6), 2);
     }
 
     /** Local 0 has a node whose field 0 is a second one, whose field 0 is the first. */

@@ -102,6 +102,7 @@ public final class VerifyTest {
         right("NIL and a node", 0, fork(nil, node, code().op(Op.GET, 1, Op.OUT, Op.RETURN)));
         right("a node and NIL", 0, fork(node, nil, code().op(Op.GET, 1, Op.OUT, Op.RETURN)));
         right("NIL and a row", 0, fork(nil, row, code().op(Op.LENGTH, Op.OUT, Op.RETURN)));
+        right("NIL and rows", 0, fork(nil, rows, code().op(Op.LENGTH, Op.OUT, Op.RETURN)));
         right("rows and NIL", 0, fork(rows, nil, code().op(Op.LENGTH, Op.OUT, Op.RETURN)));
         wrong("nodes of two records", 0, fork(node, other, exit));
         wrong("a row and a node", 0, fork(row, node, exit));
