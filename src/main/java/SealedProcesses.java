@@ -952,11 +952,11 @@ public final class SealedProcesses {
 
         private int takeBlockRecord(TypedModule made) {
             int where = bytes.at;
-            int record = takeName(made.records);
-            if (naming && !made.hasIntsAlone(record)) {
+            int named = takeName(made.records);
+            if (naming && !made.hasIntsAlone(named)) {
                 bytes.fail(1, where);
             }
-            return record;
+            return named;
         }
 
         private void takeTarget(Routine routine) {
@@ -1488,6 +1488,9 @@ public final class SealedProcesses {
 
         /** Contracts may name one another in rings, so each pair is looked at once. */
         private boolean areAlike(TypedModule a, int c, TypedModule b, int d) {
+            if (a == null || b == null) {
+                return false;
+            }
             paired = 0;
             addPair(c, d);
             for (int i = 0; i < paired && i < pairs.length; i++) {
