@@ -1,4 +1,4 @@
-"""A model of SealedProcesses, written from DOC.md apart from the class, to compare answers with."""
+"""A model of SealedProcesses, after DOC.md, that shares no code with the class, to compare answers with."""
 NONE=-1
 class Fault(Exception):
     def __init__(s,k,p): s.k=k; s.p=p

@@ -2,7 +2,7 @@ import java.io.IOException;
 import java.nio.file.Files;
 import java.nio.file.Path;
 
-/** Runs of calls with the answers of a model that was written apart from the class (tools/fuzz). */
+/** Runs of calls with the answers of the model in tools/fuzz, which shares no code with the class. */
 public final class RecordedRunsTest {
     public static void main(String[] args) throws IOException {
         Check check = new Check("recorded runs");
