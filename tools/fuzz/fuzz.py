@@ -20,7 +20,8 @@ def session(seed):
         calls+=1
         if name=='new': v=0
         else: v=getattr(M,name)(*a)
-        lines.append(' '.join([name]+[str(x) for x in a])); want.append(v); info.append(seed)
+        if calls<=513: # what an object answers behind its 512th call is free
+            lines.append(' '.join([name]+[str(x) for x in a])); want.append(v); info.append(seed)
         return v
     c('new')
     def feedb(b):
