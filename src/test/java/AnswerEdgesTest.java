@@ -15,6 +15,7 @@ public final class AnswerEdgesTest {
         howTheyAre();
         whenOver();
         ofWhichModule();
+        theHighest();
         stackPlaces();
         locals();
         kindsOfValues();
@@ -303,6 +304,48 @@ public final class AnswerEdgesTest {
         CHECK.due("the place when it was booted", x.process(4, 2), 2);
     }
 
+    /** The last function of ten, the last byte of 240, the last place of the shelf, and process 11. */
+    private static void theHighest() {
+        CHECK.sentence("process: 3 the function, 4 the place in its code of its next instruction; output: 0 which process (each up to the highest)");
+        Code longest = code().op(Op.LOAD, 0, Op.OUT).times(6, Op.YIELD).jump("last").times(227, Op.EXIT).label("last").op(Op.YIELD, Op.RETURN);
+        Code first = code();
+        for (int i = 1; i <= 11; i++) {
+            first.push(i).op(Op.SPAWN, 9);
+        }
+        Build module = new Build().function(0, first.op(Op.EXIT));
+        for (int f = 1; f <= 8; f++) {
+            module.function(0, code().op(Op.EXIT));
+        }
+        module.function(1, Build.types(0), Build.types(255), 1, longest);
+        SealedProcesses x = new SealedProcesses();
+        for (int m = 0; m < 5; m++) {
+            Build.load(x, new Build().function(0, code().op(Op.EXIT)).bytes());
+        }
+        CHECK.due("load", Build.load(x, module.bytes()), 5);
+        CHECK.due("bytes of code", x.module(5, 9, 12), 240);
+        CHECK.due("what comes to the last place but one", x.typeAt(5, 9, 238, 1, 0), 0);
+        CHECK.due("ahead of it nothing comes", x.typeAt(5, 9, 237, 1, 0), -1);
+        CHECK.due("what comes to the last place", x.typeAt(5, 9, 239, 1, 0), 0);
+        CHECK.due("there is none behind it", x.typeAt(5, 9, 240, 1, 0), -1);
+        CHECK.due("boot", Build.boot(x, 83, 70, 1, 5, 0, 1), 1);
+        for (int steps = 0; steps < 200 && x.about(6) < 11; steps++) {
+            x.run(1);
+        }
+        CHECK.due("process 11's function", x.process(11, 3), 9);
+        x.run(200);
+        for (int i = 0; i < 11; i++) {
+            CHECK.due("which process", x.output(i, 0), x.output(i, 1));
+        }
+        CHECK.due("process 11 is over", x.process(11, 0), 4);
+        CHECK.due("its steps", x.process(11, 9), 11);
+        Build one = new Build().function(0, code().op(Op.JUMP, 239).times(237, Op.EXIT).op(Op.RETURN));
+        SealedProcesses y = Build.booted(one, 0);
+        y.run(1);
+        CHECK.due("the last place", y.process(0, 4), 239);
+        y.run(1);
+        CHECK.due("and over", y.process(0, 0), 4);
+    }
+
     private static void stackPlaces() {
         CHECK.sentence("value: stack place i (what 0); Integer.MIN_VALUE when there is none such");
         for (int count = 0; count <= 16; count++) {
@@ -462,7 +505,11 @@ public final class AnswerEdgesTest {
         for (int c = -1; c <= 12; c++) {
             CHECK.due("channel " + c + " is not there yet", x.channel(c, 0, 0), c >= 0 && c < 6 ? 0 : -1);
         }
-        x.run(16);
+        x.run(6);
+        for (int e = 0; e < 12; e++) {
+            CHECK.due("value of end " + (12 + e), x.value(0, 0, e), 12 + e);
+        }
+        x.run(10);
         for (int c = -1; c <= 13; c++) {
             boolean there = c >= 0 && c < 12;
             int[][] due = {{c == 11 ? 7 : 0, 0, 0}, {0, 0, c == 11 ? 4 : 0}};

@@ -336,6 +336,17 @@ public final class InstructionEdgesTest {
         for (int i = 0; i < 5; i++) {
             CHECK.due("OUT " + i + " with SPAWN", y.output(i, 1), spawned[i]);
         }
+        // A result that is the number 0 of its sort is one, too.
+        int[][] zeros = {{0}, {1, 1}, {2}, {4, 1}, {5, 1, 0, 0}};
+        int[][] makes = {{Op.PUSH, 0, 0, 0, 0}, {Op.NIL}, {Op.NIL}, {Op.BLOCK, 1}, {Op.CHANNEL, 1, Op.CLOSE}};
+        for (int i = 0; i < zeros.length; i++) {
+            SealedProcesses zero = Build.booted(Sample.declarations().function(0, code().push(9).op(Op.CALL, 1).label("y").op(Op.YIELD).jump("y"))
+                .function(0, Build.types(), zeros[i], 0, code().op(makes[i]).op(Op.RETURN)), 0);
+            zero.run(10);
+            CHECK.due("items behind a result of type " + zeros[i][0], zero.process(0, 6), 2);
+            CHECK.due("the result", zero.value(0, 0, 1), 0);
+            CHECK.due("what is below", zero.value(0, 0, 0), 9);
+        }
         // The callee's other locals are EMPTY, though an activation stood there before.
         SealedProcesses z = Build.booted(new Build().function(0, code().op(Op.CALL, 1, Op.CALL, 2, Op.EXIT))
             .function(2, code().push(6).op(Op.STORE, 0).push(7).op(Op.STORE, 1, Op.RETURN)).function(2, code().op(Op.YIELD, Op.RETURN)), 0);
